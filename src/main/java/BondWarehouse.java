@@ -1475,7 +1475,6 @@ public final class BondWarehouse {
         }
 
         private void startLine() {
-            letter = 0;
             form = null;
             startNumber(0);
         }

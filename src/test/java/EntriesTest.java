@@ -149,6 +149,12 @@ public final class EntriesTest {
         w.setRateByValue(3, 0);
         w.setRateByWeight(3, 0);
         Check.is("no rates", 0, () -> w.dutyOf(2));
+        w.enter(3, 101, 101, 2);
+        w.setRateByValue(3, 1);
+        Check.is("by value, just rounded up", 2, () -> w.dutyOf(5));
+        w.setRateByValue(3, 0);
+        w.setRateByWeight(3, 1);
+        Check.is("by weight, just rounded up", 2, () -> w.dutyOf(5));
     }
 
     private static void overdueDuties() {
@@ -193,6 +199,13 @@ public final class EntriesTest {
         Check.is("at most the weight", 990, () -> w.allowedWaste(0));
         w.undo();
         Check.is("just less", 792, () -> w.allowedWaste(0));
+        int[] due = {0, 49, 99, 19, 199, 0};
+        for (int kind = 0; kind < 6; kind++) {
+            BondWarehouse v = new BondWarehouse();
+            v.enter(kind, 999, 1, 0);
+            v.pass(100);
+            Check.is("kind " + kind, due[kind], () -> v.allowedWaste(0));
+        }
     }
 
     private static void means() {

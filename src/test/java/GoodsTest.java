@@ -9,6 +9,7 @@ public final class GoodsTest {
         entering();
         enteringRefused();
         limitsOfEntries();
+        fullRows();
         withdrawing();
         withdrawingRefused();
         sendingAbroad();
@@ -78,7 +79,7 @@ public final class GoodsTest {
     private static void entering() {
         Check.promise(2);
         BondWarehouse w = new BondWarehouse();
-        w.pass(7);
+        w.pass(15);
         Check.is("the first", 0, () -> w.enter(0, 1, 1, 0));
         Check.is("the second", 1, () -> w.enter(5, 999, 9999, 4));
         Check.is("kind", 5, () -> w.kindOf(1));
@@ -93,8 +94,9 @@ public final class GoodsTest {
         Check.is("saved", 3, w::savedStates);
         w.sendAbroad(0, 1);
         Check.is("numbers are not used again", 2, () -> w.enter(0, 1, 1, 0));
+        int late = w.enter(4, 500, 10, 1);
         w.pass(10);
-        Check.is("weighed 10 days ago", 0, () -> w.allowedWaste(1));
+        Check.is("weighed when it was entered", 10, () -> w.allowedWaste(late));
     }
 
     private static void enteringRefused() {
@@ -140,6 +142,48 @@ public final class GoodsTest {
         Check.is("the last number", true, () -> w.isOpenEntry(59));
         w.sendAbroad(59, 1);
         Check.refuses("the sixty-first", Check.STATE, () -> w.enter(0, 1, 1, 0));
+    }
+
+    /** With 16 entries, six saved states and twelve receipts, no call steps over the end of a row. */
+    private static void fullRows() {
+        Check.promise(2);
+        BondWarehouse w = new BondWarehouse();
+        w.deposit(9999);
+        for (int i = 0; i < 17; i++) {
+            w.enter(0, 100 - i, 1000, i / 4);
+            w.withdraw(i == 16 ? 15 : i, i == 0 ? 100 : 1);
+        }
+        Check.is("entries", 16, w::entries);
+        Check.is("receipts", 12, w::receipts);
+        Check.promise(22);
+        Check.is("the last", 16, () -> w.entryAt(15));
+        Check.promise(47);
+        Check.is("stake", 14 * 99 + 98 + 100, w::dutyAtStake);
+        Check.promise(73);
+        Check.is("next", 1, w::nextOverdue);
+        Check.promise(74);
+        Check.is("cheapest", 1, () -> w.cheapestEntry(0));
+        Check.promise(75);
+        Check.is("all", w.dutyAtStake(), () -> w.dutyFromCheapest(0, w.stockByEntries(0)));
+        Check.promise(76);
+        Check.is("dearest", 16, w::dearestEntry);
+        Check.promise(37);
+        Check.is("in the last chamber", 1, () -> w.entriesIn(4));
+        Check.promise(17);
+        w.pass(100);
+        w.pass(100);
+        Check.is("all are overdue", 16, () -> w.pass(1));
+        w.lock(4);
+        w.breakSeal(4);
+        Check.promise(11);
+        Check.is("one is not proved", 1, () -> w.open(4));
+        Check.promise(21);
+        Check.is("no such", false, () -> w.isOpenEntry(17));
+        String before = Told.of(w);
+        w.weigh(16, 0);
+        w.undo();
+        Check.promise(81);
+        Check.compare("undone", before, Told.of(w));
     }
 
     private static void withdrawing() {
@@ -220,10 +264,12 @@ public final class GoodsTest {
         Check.refuses("no weight", Check.ARGUMENT, () -> w.sendAbroad(0, 0));
         Check.refuses("too much", Check.ARGUMENT, () -> w.sendAbroad(0, 1000));
         Check.refuses("no entry", Check.INDEX, () -> w.sendAbroad(1, 0));
-        Check.is("the whole", 0, () -> w.sendAbroad(0, 60));
+        Check.is("all but one", 1, () -> w.sendAbroad(0, 59));
+        Check.is("it is open still", true, () -> w.isOpenEntry(0));
+        Check.is("the whole", 0, () -> w.sendAbroad(0, 1));
         Check.is("closed", 0, w::entries);
         Check.is("abroad, all", 100, () -> w.sentAbroad(2));
-        Check.is("saved", 3, w::savedStates);
+        Check.is("saved", 4, w::savedStates);
         w.enter(0, 10, 10, 1);
         w.pass(100);
         w.pass(100);
@@ -296,6 +342,9 @@ public final class GoodsTest {
         w.sendAbroad(3, 1);
         Check.is("just enough room", 0, () -> w.move(3, 1));
         Check.refuses("it is there already", Check.STATE, () -> w.move(3, 1));
+        w.enter(0, 1, 1, 4);
+        Check.is("into the first one", 1000, () -> w.move(4, 0));
+        w.sendAbroad(4, 1);
         Check.refuses("no chamber", Check.INDEX, () -> w.move(3, 5));
         Check.refuses("no chamber below", Check.INDEX, () -> w.move(3, -1));
         Check.refuses("no entry", Check.INDEX, () -> w.move(4, 0));

@@ -13,6 +13,7 @@ public final class ReasonsTest {
         noExport();
         noMove();
         noDrawback();
+        oneCrownOfDebt();
         wrongArguments();
         Check.end();
     }
@@ -227,6 +228,26 @@ public final class ReasonsTest {
         makeDebt(w);
         Check.is("the debt before the days", 1, () -> w.whyNoDrawback(0, 51));
         Check.is("one receipt only", 1, w::receipts);
+    }
+
+    private static void oneCrownOfDebt() {
+        BondWarehouse w = new BondWarehouse();
+        w.deposit(10);
+        w.enter(0, 100, 100, 0);
+        w.withdraw(0, 50);
+        w.weigh(w.enter(0, 6, 60, 1), 0);
+        Check.promise(49);
+        Check.is("debt", 1, w::debt);
+        Check.promise(64);
+        Check.is("entry", 1, () -> w.whyNoEntry(0, 1, 1, 0));
+        Check.promise(65);
+        Check.is("withdrawal", 1, () -> w.whyNoWithdrawal(0, 1));
+        Check.promise(66);
+        Check.is("export", 1, () -> w.whyNoExport(0, 1));
+        Check.promise(68);
+        Check.is("drawback", 1, () -> w.whyNoDrawback(0, 1));
+        w.deposit(1);
+        Check.is("no drawback is in debt's way", 0, () -> w.whyNoDrawback(0, 1));
     }
 
     private static void wrongArguments() {

@@ -12,6 +12,7 @@ public final class UndoTest {
         keeping();
         goingBack();
         goingBackIsUndoable();
+        rowsComeBack();
         theBufferIsNoState();
         Check.end();
     }
@@ -170,6 +171,49 @@ public final class UndoTest {
             w.goBack(0);
         }
         Check.is("six", 6, w::savedStates);
+    }
+
+    /** Rows are used again, so that each of their fields must come back, and not only those that changed. */
+    private static void rowsComeBack() {
+        Check.promise(84);
+        BondWarehouse w = new BondWarehouse();
+        w.deposit(5000);
+        w.enter(4, 100, 1000, 3);
+        w.enter(5, 50, 70, 2);
+        w.pass(11);
+        w.weigh(0, 90);
+        w.withdraw(0, 40);
+        w.pass(3);
+        w.withdraw(1, 10);
+        w.lock(2);
+        w.breakSeal(2);
+        w.keep(0);
+        String kept = Told.of(w);
+        w.open(2);
+        w.sendAbroad(0, w.weightOf(0));
+        w.weigh(1, 40);
+        w.sendAbroad(1, 40);
+        for (int i = 0; i < 12; i++) {
+            w.enter(3, 300, 999, 0);
+            w.withdraw(2 + i, 300);
+            w.pass(1);
+        }
+        w.enter(1, 999, 9999, 1);
+        w.setRateByValue(1, 60);
+        w.weigh(14, 0);
+        Check.compare("there is debt", "true", Boolean.toString(w.debt() > 0));
+        String indebted = Told.of(w);
+        w.goBack(0);
+        Check.compare("all is back", kept, Told.of(w));
+        Check.is("the next seal", 2, () -> w.lock(0));
+        Check.is("nothing is missing", 0, () -> w.weigh(0, 50));
+        w.undo();
+        w.undo();
+        w.undo();
+        Check.promise(81);
+        Check.compare("undone", indebted, Told.of(w));
+        w.undo();
+        Check.is("no debt before", 0, w::debt);
     }
 
     private static void theBufferIsNoState() {

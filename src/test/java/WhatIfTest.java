@@ -51,6 +51,7 @@ public final class WhatIfTest {
         w.enter(0, 300, 3330, 0);
         w.withdraw(0, 300);
         Check.is("a part", 6, () -> w.drawbackFor(0, 7));
+        Check.is("the least part", 0, () -> w.drawbackFor(0, 1));
         Check.is("all", 299, () -> w.drawbackFor(0, 300));
         Check.refuses("more", Check.ARGUMENT, () -> w.drawbackFor(0, 301));
         Check.refuses("nothing", Check.ARGUMENT, () -> w.drawbackFor(0, 0));
