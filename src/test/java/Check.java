@@ -67,6 +67,10 @@ final class Check {
         }
     }
 
+    static int looked() {
+        return looked;
+    }
+
     /** The last call of each test. */
     static void end() {
         System.out.println(looked + " looked at, " + wrong + " wrong");
